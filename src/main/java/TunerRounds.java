@@ -67,22 +67,27 @@ public final class TunerRounds {
     }
 
     public int house() {
-        boolean isRead = houseText.isRead();
+        try {
+            houseText.readAll();
+            house.copyFrom(houseText.draft);
+            records.size = 0;
+        } catch (IllegalStateException fault) {
+            // The tape holds where and what the FAULT is.
+        }
         tape.empty();
         faultKind = tape.faultKind;
-        if (!isRead) {
-            return -1 - tape.faultPlace;
-        }
-        house.copyFrom(houseText.draft);
-        records.size = 0;
-        return house.lines;
+        return faultKind == 0 ? house.lines : -1 - tape.faultPlace;
     }
 
     public int records() {
-        boolean isRead = recordText.isRead();
+        try {
+            records.size = recordText.readAll();
+        } catch (IllegalStateException fault) {
+            // The tape holds where and what the FAULT is.
+        }
         tape.empty();
         faultKind = tape.faultKind;
-        return isRead ? records.size : -1 - tape.faultPlace;
+        return faultKind == 0 ? records.size : -1 - tape.faultPlace;
     }
 
     public int fault() {
@@ -510,13 +515,16 @@ public final class TunerRounds {
             int digits = 0;
             word = 0;
             value = 0;
-            for (; next < length && (isLetter(bytes[next]) || isDigit(bytes[next])); next++) {
-                if (isLetter(bytes[next])) {
+            for (; next < length; next++) {
+                int sign = bytes[next];
+                if (isLetter(sign)) {
                     letters++;
-                    word = withLetter(word, bytes[next]);
-                } else {
+                    word = withLetter(word, sign);
+                } else if (isDigit(sign)) {
                     digits++;
-                    value = value * 10 + (bytes[next] - '0');
+                    value = value * 10 + (sign - '0');
+                } else {
+                    break;
                 }
             }
             if (digits == 0 && letters <= LETTERS_AT_MOST) {
@@ -736,10 +744,6 @@ public final class TunerRounds {
             return fact(p, KIND) == SCHOOL && term[weekOf(day)] == 1;
         }
 
-        int slipOf(int p, int note) {
-            return slip[p * NOTES + note];
-        }
-
         int tunerX(int t) {
             return tunerRows[t * 3];
         }
@@ -870,7 +874,7 @@ public final class TunerRounds {
         }
 
         boolean isOf(int i, int itsKind, int itsPiano, int day) {
-            return kind[i] == itsKind && piano[i] == itsPiano && isKnown(i, day);
+            return kind[i] == itsKind && piano[i] == itsPiano && (day == NONE || known[i] <= day);
         }
 
         /** The RECORD of a kind and PIANO OF a day AS KNOWN; NONE without one. */
@@ -918,26 +922,22 @@ public final class TunerRounds {
             draft = new House();
         }
 
-        boolean isRead() {
-            try {
-                readAll();
-                return true;
-            } catch (IllegalStateException fault) {
-                return false;
-            }
-        }
-
-        private void readAll() {
+        void readAll() {
             draft.clear();
             toldOnce = 0;
             tape.begin(BYTES);
-            // A LINE has two bytes at least, so a text of that many bytes ends ahead of this bound.
+            // A LINE has two bytes at least, so the text ends ahead of this bound.
             for (int i = 0; i < BYTES; i++) {
                 tape.take();
                 if (tape.kind == Tape.END_OF_TEXT) {
                     return;
                 }
-                readLine(tape.keywordHere());
+                int keyword = tape.keywordHere();
+                if (keyword <= Tape.DAY) {
+                    readRuleLine(keyword);
+                } else {
+                    readNameLine(keyword);
+                }
                 if (tape.kind != Tape.SEMICOLON) {
                     tape.fail(1);
                 }
@@ -946,7 +946,7 @@ public final class TunerRounds {
         }
 
         /** Each kind of LINE is read up to the TOKEN behind it, which is taken. */
-        private void readLine(int keyword) {
+        private void readRuleLine(int keyword) {
             switch (keyword) {
                 case Tape.TABLE:
                     readTable();
@@ -975,14 +975,27 @@ public final class TunerRounds {
                 case Tape.DAY:
                     readDay();
                     break;
+                default:
+                    tape.fail(1);
+            }
+        }
+
+        private void readNameLine(int keyword) {
+            switch (keyword) {
                 case Tape.PIANO:
-                    readPiano();
+                    mustHaveRoom(draft.pianos, House.PIANOS);
+                    readPiano(takeNewName());
+                    readMore(draft.pianos - 1);
                     break;
                 case Tape.TUNER:
-                    readTuner();
+                    mustHaveRoom(draft.tuners, House.TUNERS);
+                    readTuner(takeNewName());
                     break;
                 case Tape.PUPIL:
-                    readPupil();
+                    mustHaveRoom(draft.pupils, House.PUPILS);
+                    draft.pupilNames[draft.pupils] = takeNewName();
+                    draft.pupils++;
+                    tape.take();
                     break;
                 case Tape.TEACH:
                     readTeach();
@@ -992,15 +1005,8 @@ public final class TunerRounds {
             }
         }
 
-        private void tellOnce(int keyword) {
-            if ((toldOnce >> keyword & 1) == 1) {
-                tape.fail(3);
-            }
-            toldOnce |= 1 << keyword;
-        }
-
         private void readTable() {
-            tellOnce(Tape.TABLE);
+            toldOnce = withTold(toldOnce, Tape.TABLE);
             int tone = tape.takeNumber(1000, 99999);
             int most = Math.min(99999, 2 * tone - 1);
             draft.table[0] = tone;
@@ -1031,9 +1037,7 @@ public final class TunerRounds {
         }
 
         private void readFee() {
-            if (draft.fees >= House.FEES) {
-                tape.fail(4);
-            }
+            mustHaveRoom(draft.fees, House.FEES);
             int row = draft.fees * 3;
             draft.feeRows[row] = tape.takeKind();
             draft.feeRows[row + 1] = tape.takeNumber(0, 9999);
@@ -1043,17 +1047,23 @@ public final class TunerRounds {
         }
 
         private void readRule(int keyword, int rule, int least, int most) {
-            tellOnce(keyword);
+            toldOnce = withTold(toldOnce, keyword);
             draft.rules[rule] = tape.takeNumber(least, most);
             tape.take();
         }
 
         private void readDay() {
-            tellOnce(Tape.DAY);
+            toldOnce = withTold(toldOnce, Tape.DAY);
             int from = tape.takeNumber(0, 1440);
             draft.rules[House.DAY_FROM] = from;
             draft.rules[House.DAY_TO] = tape.takeNumber(from + 1, 1440);
             tape.take();
+        }
+
+        private void mustHaveRoom(int there, int most) {
+            if (there >= most) {
+                tape.fail(4);
+            }
         }
 
         private long takeNewName() {
@@ -1064,11 +1074,8 @@ public final class TunerRounds {
             return name;
         }
 
-        private void readPiano() {
-            if (draft.pianos >= House.PIANOS) {
-                tape.fail(4);
-            }
-            int p = draft.addPiano(takeNewName());
+        private void readPiano(long name) {
+            int p = draft.addPiano(name);
             draft.tell(p, House.KIND, tape.takeKind());
             draft.tell(p, House.X, tape.takeNumber(0, 99));
             draft.tell(p, House.Y, tape.takeNumber(0, 99));
@@ -1076,66 +1083,52 @@ public final class TunerRounds {
             draft.tell(p, House.AGE, tape.takeNumber(0, 200));
             draft.tell(p, House.WORTH, tape.takeNumber(0, 9999));
             draft.tell(p, House.BATCH, tape.takeNumber(0, 9));
-            readMore(p);
         }
 
         private void readMore(int p) {
-            int slips = 0;
-            int frails = 0;
             int words = 0;
+            int notes = 0;
+            int sorts = 0;
             for (int i = 0; i < BYTES; i++) {
                 tape.take();
-                int keyword = tape.keywordHere();
-                if (keyword == Tape.SLIP) {
-                    slips = readSlip(p, slips);
-                } else if (keyword == Tape.FRAIL) {
-                    frails = readFrail(p, frails);
-                } else if (keyword == Tape.STOVE || keyword == Tape.OPEN) {
-                    if ((words >> keyword & 1) == 1) {
-                        tape.fail(3);
-                    }
-                    words |= 1 << keyword;
-                    readStoveOrOpen(p, keyword);
-                } else {
-                    return;
+                switch (tape.keywordHere()) {
+                    case Tape.STOVE:
+                        words = withTold(words, Tape.STOVE);
+                        draft.tell(p, House.STOVE, 1);
+                        break;
+                    case Tape.OPEN:
+                        words = withTold(words, Tape.OPEN);
+                        int from = tape.takeNumber(0, 1440);
+                        draft.tell(p, House.OPEN_FROM, from);
+                        draft.tell(p, House.OPEN_TO, tape.takeNumber(from + 1, 1440));
+                        break;
+                    case Tape.SLIP:
+                        int note = tape.takeNumber(0, NOTES - 1);
+                        notes = withTold(notes, note);
+                        draft.slip[p * NOTES + note] = tape.takeNumber(0, 99);
+                        break;
+                    case Tape.FRAIL:
+                        int sort = tape.takeNumber(0, SORTS - 1);
+                        sorts = withTold(sorts, sort);
+                        draft.frail[p * SORTS + sort] = tape.takeNumber(0, 20);
+                        break;
+                    default:
+                        return;
                 }
             }
         }
 
-        private int readSlip(int p, int told) {
-            int note = tape.takeNumber(0, NOTES - 1);
-            if ((told >> note & 1) == 1) {
+        /** What was told with one more; a FAULT at the TOKEN just taken if it was told already. */
+        private int withTold(int told, int one) {
+            if ((told >> one & 1) == 1) {
                 tape.fail(3);
             }
-            draft.slip[p * NOTES + note] = tape.takeNumber(0, 99);
-            return told | 1 << note;
+            return told | 1 << one;
         }
 
-        private int readFrail(int p, int told) {
-            int g = tape.takeNumber(0, SORTS - 1);
-            if ((told >> g & 1) == 1) {
-                tape.fail(3);
-            }
-            draft.frail[p * SORTS + g] = tape.takeNumber(0, 20);
-            return told | 1 << g;
-        }
-
-        private void readStoveOrOpen(int p, int keyword) {
-            if (keyword == Tape.STOVE) {
-                draft.tell(p, House.STOVE, 1);
-                return;
-            }
-            int from = tape.takeNumber(0, 1440);
-            draft.tell(p, House.OPEN_FROM, from);
-            draft.tell(p, House.OPEN_TO, tape.takeNumber(from + 1, 1440));
-        }
-
-        private void readTuner() {
-            if (draft.tuners >= House.TUNERS) {
-                tape.fail(4);
-            }
+        private void readTuner(long name) {
             int t = draft.tuners;
-            draft.tunerNames[t] = takeNewName();
+            draft.tunerNames[t] = name;
             draft.tuners++;
             draft.tunerRows[t * 3] = tape.takeNumber(0, 99);
             draft.tunerRows[t * 3 + 1] = tape.takeNumber(0, 99);
@@ -1145,15 +1138,6 @@ public final class TunerRounds {
                 draft.tunerRows[t * 3 + 2] = tape.takeSigned(99);
                 tape.take();
             }
-        }
-
-        private void readPupil() {
-            if (draft.pupils >= House.PUPILS) {
-                tape.fail(4);
-            }
-            draft.pupilNames[draft.pupils] = takeNewName();
-            draft.pupils++;
-            tape.take();
         }
 
         private void readTeach() {
@@ -1184,16 +1168,8 @@ public final class TunerRounds {
             this.records = records;
         }
 
-        boolean isRead() {
-            try {
-                records.size = readAll();
-                return true;
-            } catch (IllegalStateException fault) {
-                return false;
-            }
-        }
-
-        private int readAll() {
+        /** How many RECORDS there are then in all. */
+        int readAll() {
             tape.begin(BYTES);
             int row = records.size;
             for (int i = 0; i < BYTES; i++) {
@@ -1235,8 +1211,10 @@ public final class TunerRounds {
             if (kind == Records.FOUND) {
                 readNote(row);
             }
-            if (kind == Records.TUNED || kind == Records.FOUND) {
-                readNotes(row);
+            boolean hasNotes = kind == Records.TUNED || kind == Records.FOUND;
+            // One NOTE more than there are is a FAULT.
+            for (int i = 0; i <= NOTES && hasNotes && tape.kind == Tape.NUMBER; i++) {
+                readNote(row);
             }
         }
 
@@ -1269,12 +1247,6 @@ public final class TunerRounds {
             if (tape.keywordHere() == Tape.KNOWN) {
                 records.known[row] = tape.takeNumber(least, DAYS - 1);
                 tape.take();
-            }
-        }
-
-        private void readNotes(int row) {
-            for (int i = 0; i <= NOTES && tape.kind == Tape.NUMBER; i++) {
-                readNote(row);
             }
         }
 
@@ -1369,19 +1341,19 @@ public final class TunerRounds {
 
         /** OFFSET, with the slip by so much more; only where it was TUNED. */
         int offsetAt(int note, int day, int more) {
-            return offsetUndamped(note, day, more) + dampOf(day);
+            return offsetUndamped(note, day, more) + dampFrom(day);
         }
 
         private int offsetUndamped(int note, int day, int more) {
             if (tunedDay < 0) {
                 return 0;
             }
-            int slip = Math.max(0, house.slipOf(piano, note) + more);
+            int slip = Math.max(0, house.slip[piano * NOTES + note] + more);
             int times = slipTimes[day] - slipTimes[tunedDay];
             return left[note] - slip * times - (stoveFall[day] - stoveFall[tunedDay]);
         }
 
-        private int dampOf(int day) {
+        private int dampFrom(int day) {
             if (tunedDay < 0) {
                 return 0;
             }
@@ -1389,7 +1361,7 @@ public final class TunerRounds {
         }
 
         int greatestAt(int day, int more) {
-            int damp = dampOf(day);
+            int damp = dampFrom(day);
             int greatest = 0;
             for (int note = 0; note < NOTES; note++) {
                 greatest = Math.max(greatest, Math.abs(offsetUndamped(note, day, more) + damp));
@@ -1795,9 +1767,10 @@ public final class TunerRounds {
                 weights[i] = weightOf(pianos[i], day);
             }
             sums[0] = 0;
-            for (int set = 1; set < sets; set++) {
-                int least = Integer.numberOfTrailingZeros(set);
-                sums[set] = sums[set & (set - 1)] + weights[least];
+            for (int i = 0; i < size; i++) {
+                for (int set = 0; set < 1 << i; set++) {
+                    sums[set | 1 << i] = sums[set] + weights[i];
+                }
             }
         }
 
