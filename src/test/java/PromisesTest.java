@@ -207,6 +207,8 @@ public final class PromisesTest {
         is("week(0, 1)", 1, () -> y.week(0, 1));
         is("week(1, 1)", 0, () -> y.week(1, 1));
         is("week(51, 1)", 1, () -> y.week(51, 1));
+        is("the least and the most", 3, () -> told("sure 0;cake 0;walk 1;work 10;fee home 0 0;day 0 1440;",
+            "").count(6) + told("sure 99;cake 999;walk 20;work 120;fee home 9999 363;fee hall 9999 363;").count(6));
         y.house();
         is("week(3, 0) of the empty HOUSE", 20, () -> y.week(3, 0));
         is("week(0, 1) of the empty HOUSE", 0, () -> y.week(0, 1));
@@ -277,6 +279,22 @@ public final class PromisesTest {
         badHouse("tuner t 1 1 fork - - 1;", 1, 19);
         badHouse("tuner t 1 1 fork 1 fork 1;", 1, 19);
         badHouse("pupil a;pupil a;", 3, 14);
+        badHouse("pupil a;tuner a 1 1;", 3, 14);
+        badHouse("tuner t 1 1;tuner t 1 1;", 3, 18);
+        badHouse("tuner t 1 1;pupil t;", 3, 18);
+        badHouse("piano a home 1 1 1 1 1 1;piano a home 1 1 1 1 1 1;", 3, 31);
+        badHouse("piano a home 1 1 1 1 1 1;pupil a;", 3, 31);
+        badHouse("piano a home 1 1 1 1 1 1 stove slip 0 1 stove;", 3, 40);
+        badHouse("piano a home 1 1 1 1 1 1 open 0 1 open", 3, 34);
+        badHouse("piano a home 1 1 1 1 1 1 open 1441 1442;", 2, 30);
+        badHouse("piano a home 1 1 1 1 1 1 open 0 1441;", 2, 32);
+        badHouse("piano a home 1 1 1 1 1 1 slip 12 1;", 2, 30);
+        badHouse("piano a home 1 1 1 1 1 1 slip 13 1;", 2, 30);
+        badHouse("piano a home 1 1 1 1 1 1 frail 4 1;", 2, 31);
+        badHouse("piano a home 1 1 1 1 1 1 frail 5 1;", 2, 31);
+        badHouse("term 52 52;", 2, 5);
+        badHouse("term 51 52;", 2, 8);
+        badHouse("tuner t 100 1;", 2, 8);
         badHouse("tuner t 1 1;pupil q;teach q q 1;", 3, 26);
         badHouse("tuner t 1 1;pupil q;teach t t 1;", 3, 28);
         badHouse("tuner t 1 1;pupil q;teach t q 100;", 2, 30);
@@ -457,6 +475,9 @@ public final class PromisesTest {
         is("beats(4, 0)", 1190, () -> even.beats(4, 0));
         is("beats(5, 0)", 1185, () -> even.beats(5, 0));
         is("wolf(0)", 11, () -> even.wolf(0));
+        TunerRounds low = told("table 1000 1040 1060 1100 1180 1220 1280 1320 1400 1500 1650 1750;");
+        is("beats(0, 0)", 360, () -> low.beats(0, 0));
+        is("the NOTE 0", 0, () -> low.wolf(0));
         TunerRounds like = told("table 1000 1030 1070 1090 1130 1210 1270 1360 1420 1510 1560 1640;");
         is("beats(9, 2)", 940, () -> like.beats(9, 2));
         is("beats(10, 2)", 940, () -> like.beats(10, 2));
@@ -502,6 +523,8 @@ public final class PromisesTest {
         is("moved ahead of the tuning, not three times twice", -3, () -> ahead.offset(0, 0, 11, NONE));
         is("up to day 28", -54, () -> ahead.offset(0, 0, 28, NONE));
         is("day 29", -55, () -> ahead.offset(0, 0, 29, NONE));
+        TunerRounds last = told("piano a home 0 0 100 0 0 0;tuner t 0 0;", "tuned a t on 350;moved a 1 1 on 350;");
+        is("moved near the end", -39, () -> last.offset(0, 0, 363, NONE));
         TunerRounds stove = told("piano a home 0 0 100 0 0 0 stove;tuner t 0 0;", "tuned a t on 60;");
         is("week 8", -6, () -> stove.offset(0, 0, 62, NONE));
         is("week 9", -7, () -> stove.offset(0, 0, 63, NONE));
@@ -680,6 +703,12 @@ public final class PromisesTest {
         is("NOTES told in one alone", 1, () -> cracked(first, "found a on 40 0 -300 1 -300 2 -300 3 5;"));
         is("told the other way round", 1, () -> cracked("found a on 40 0 -300 1 -300 2 -301;", first));
         is("one between", 0, () -> cracked(first, "found a on 40 0 -300 1 -300 2 -300;found a on 20 0 -150 1 -150 2 -150;"));
+        is("the last of three told backwards", 1,
+            () -> cracked("found a on 30 0 600 1 600 2 600;", "found a on 20 0 100 1 100 2 100;", first));
+        is("none of three told backwards", 0,
+            () -> cracked("found a on 30 0 400 1 400 2 400;", "found a on 20 0 200 1 200 2 200;", first));
+        is("the first of three told backwards", 1,
+            () -> cracked("found a on 30 0 -400 1 400 2 400;", "found a on 20 0 300 1 300 2 300;", first));
         is("on one day", 1, () -> cracked(first, "found a on 10 0 -300 1 -300 2 -300;"));
         is("on one day, one between as told", 0,
             () -> cracked(first, "found a on 10 9 9;found a on 10 0 -300 1 -300 2 -300;"));
@@ -884,6 +913,14 @@ public final class PromisesTest {
         is("no PIANO", -2, () -> x.festival(0));
         pianos(x, 0);
         is("no day", -2, () -> x.festival(364));
+        TunerRounds third = told("day 480 610;piano a home 0 0 10 0 0 0;piano b home 20 0 10 0 0 0;"
+            + "tuner t 0 0;tuner u 20 0;tuner v 10 0;work 10;");
+        pianos(third, 0, 1);
+        is("two, for the third can't", 3, () -> third.festival(0));
+        TunerRounds middle = told("day 480 600;piano a home 0 0 10 0 0 0;piano b home 8 0 10 0 0 0;"
+            + "tuner t 0 6;tuner u 8 6;tuner v 4 0;work 20;");
+        pianos(middle, 0, 1);
+        is("the third alone ahead of the first two", 4, () -> middle.festival(0));
         TunerRounds none = told("piano a home 0 0 10 0 0 0;");
         pianos(none, 0);
         is("no TUNERS", NONE, () -> none.festival(0));
@@ -933,6 +970,16 @@ public final class PromisesTest {
         is("seven days ahead", 4, () -> z.whose(0, 0, NONE));
         is("eight days ahead", 1, () -> z.whose(0, 1, NONE));
         is("six days ahead", 0, () -> z.whose(0, 2, NONE));
+        TunerRounds edge = told("damp 1 1 21;piano h hall 0 0 10 0 0 0;piano g hall 0 0 10 0 0 0;tuner t 0 0;",
+            "tuned h t on 10 0 -10;concert h on 10;concert h on 11;concert h on 9;",
+            "tuned g t on 6 3 -9;concert g on 6;concert g on 14;tuned g t on 13 4 -9;");
+        is("left at EAR", 0, () -> edge.whose(0, 0, NONE));
+        is("left at EAR and slipped", 4, () -> edge.whose(0, 1, NONE));
+        is("ahead of any TUNED", 1, () -> edge.whose(0, 2, NONE));
+        is("nobody's", 0, () -> edge.whose(1, 0, NONE));
+        is("at EAR but for the damp", 3, () -> edge.whose(1, 1, NONE));
+        TunerRounds slow = told("piano h hall 0 0 2 0 0 0;tuner t 0 0;", "tuned h t on 10;concert h on 12;");
+        is("READY at EAR", 0, () -> slow.unready(0, NONE));
     }
 
     private static void fees() {
@@ -980,6 +1027,8 @@ public final class PromisesTest {
         x.records();
         is("16 is FREE, and so is 21 then", 3, () -> x.free(0, 363, NONE));
         is("not yet known", 1, () -> x.free(0, 363, 29));
+        TunerRounds one = told("sure 1;piano a home 0 0 10 0 0 0;tuner t 0 0;", "tuned a t on 10;tuned a t on 11;tuned a t on 13;");
+        is("'sure' 1", 1, () -> one.free(0, 363, NONE));
         TunerRounds unsure = told("fee home 50 0;piano a home 0 0 10 0 0 0;tuner t 0 0;", "tuned a t on 10;tuned a t on 11;");
         is("'sure' 0", 0, () -> unsure.free(0, 363, NONE));
         is("'sure' 0", 100, () -> unsure.owed(0, 363, NONE));
@@ -1130,6 +1179,23 @@ public final class PromisesTest {
         is("RECORDS", 0, () -> x.count(3));
         put(x, "concert b on 5;");
         is("names are as kept", 1, x::records);
+        TunerRounds y = told("piano a home 9 9 10 0 0 0;tuner t 0 0;",
+            "tuned a t on 3 known 7 2 44;paid a 5 on 6;moved a 2 3 on 4;found a on 9 2 -1;");
+        y.image(1);
+        put(y, "piano a home 0 0 10 0 0 0;tuner t 0 0;");
+        y.house();
+        put(y, "ate a on 1;ate a on 1;ate a on 1;ate a on 1;");
+        y.records();
+        y.restore(1);
+        is("what was left", 44, () -> y.offset(0, 2, 3, NONE));
+        is("when it was known", THROWS, () -> y.offset(0, 2, 3, 6));
+        is("what was told", 44, () -> y.lean(0, 2, NONE, 0));
+        is("what was found", 2, () -> y.slips(0, NONE));
+        is("its fall", 15, () -> y.slipped(0));
+        is("its days", 2, () -> y.slipped(1));
+        is("what was paid", -5, () -> y.owed(0, 363, NONE));
+        pianos(y, 0);
+        is("where it was moved", 480 + 25 + 60 + 25, () -> y.walked(0, 5));
     }
 
     private static void counts() {
