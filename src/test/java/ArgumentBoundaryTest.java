@@ -22,6 +22,9 @@ public final class ArgumentBoundaryTest extends Checks {
         tapeIsEmptyThen();
         tapeIsLeftAlone();
         throwingChangesNothing();
+        refusedTextsChangeNothing();
+        restoredAsKept();
+        fullOfRecords();
         countsOfAll();
         finish("ArgumentBoundaryTest");
     }
@@ -465,6 +468,152 @@ public final class ArgumentBoundaryTest extends Checks {
             is("RECORDS", 2, () -> x.count(3));
             is("offset", 9, () -> x.offset(0, 0, 0, NONE));
         }
+    }
+
+    // ---- refused texts, images, 200 RECORDS: all answers
+
+    private static final String RICH = "table 1000 1060 1120 1190 1260 1330 1410 1500 1590 1680 1780 1890;damp 1 1 30;term 2 2;"
+        + "fee hall 50 0;fee home 40 3;sure 5;cake 7;walk 3;work 20;day 400 1000;piano a hall 2 3 40 5 60 1 stove slip 0 2 frail 0 5;"
+        + "piano b hall 1 1 30 5 60 2 frail 1 7 open 10 900;tuner t 0 0 fork 2;tuner u 5 5;pupil q;pupil r;teach t q 4;teach u q 9;";
+    private static final String RICH_RECORDS = "tuned a t on 1 0 5 3 -4;found a on 8 0 -20 1 -7 2 -7;concert a on 9;tuned b u on 2 1 6;"
+        + "found b on 6 1 -5 2 0;moved b 4 4 on 3;paid a 9 on 4;ate a on 5;broke b 1 on 7;concert b on 11 known 10;";
+    private static final String[] OTHER_LINES = {"tuned a u on 9 0 30 1 30 2 30 4 30;", "tuned b t on 6 1 9;",
+        "found a on 10 0 -330 1 -330 2 -330;", "found b on 8 3 -99;", "broke a 0 on 1;", "paid a 99 on 1;", "ate b on 1;",
+        "concert a on 30;", "concert b on 3;", "moved a 9 9 on 1;", "moved b 0 0 on 4;"};
+
+    /** Some 250 answers that the HOUSE and the RECORDS give, as one text. */
+    private static String answers(TunerRounds x) {
+        StringBuilder all = new StringBuilder();
+        for (int what = 0; what < 7; what++) {
+            all.append(' ').append(what == 4 ? 0 : x.count(what));
+        }
+        for (int p = 0; p < 2; p++) {
+            for (int day : new int[] {2, 9, 20, 363}) {
+                for (int known : new int[] {NONE, 7, 10}) {
+                    int at = p;
+                    all.append(' ').append(orThrows(() -> x.offset(at, 0, day, known)));
+                    all.append(' ').append(x.off(p, day, known)).append(' ').append(x.due(p, day, known, 0));
+                    all.append(' ').append(x.owed(p, day, known)).append(' ').append(x.free(p, day, known));
+                    all.append(' ').append(x.tunings(p, day, known)).append(' ').append(x.past(p, day, known));
+                }
+                all.append(' ').append(x.weight(p, day)).append(' ').append(x.fee(p, day));
+            }
+            all.append(" slips ").append(x.slips(p, NONE)).append(' ').append(orThrows(() -> x.slipped(0)));
+            all.append(' ').append(x.cracked(p, NONE)).append(' ').append(x.unready(p, NONE));
+            all.append(' ').append(x.whose(p, 0, NONE)).append(' ').append(x.whose(p, 1, NONE));
+        }
+        for (int note = 0; note < 5; note++) {
+            int at = note;
+            all.append(' ').append(orThrows(() -> x.lean(0, at, NONE, 0))).append(' ').append(orThrows(() -> x.lean(1, at, NONE, 0)));
+            all.append(' ').append(x.week(note, 0)).append(' ').append(x.week(note, 1)).append(' ').append(x.beats(note, 2));
+        }
+        all.append(" stove ").append(orThrows(() -> x.stove(NONE, 0))).append(" batch ").append(x.batch(NONE));
+        all.append(" pupils ").append(x.pupils()).append(' ').append(x.pupilOf(0)).append(" tape ");
+        for (int day : new int[] {3, 9}) {
+            pianos(x, 1, 0);
+            all.append(' ').append(x.round(0, day)).append(' ').append(x.home());
+            pianos(x, 1, 0);
+            all.append(' ').append(x.walked(1, day));
+            pianos(x, 1, 0);
+            all.append(' ').append(x.two(0, 1, day));
+            pianos(x, 1, 0);
+            all.append(' ').append(x.festival(day));
+        }
+        pianos(x, 0, 1);
+        return all.append(' ').append(x.bag(1)).append(' ').append(x.chance()).toString();
+    }
+
+    private static String orThrows(Call call) {
+        try {
+            return "" + call.answer();
+        } catch (java.util.NoSuchElementException e) {
+            return "throws";
+        }
+    }
+
+    private static void isAlike(String what, String want, TunerRounds x) {
+        String got = answers(x);
+        is(what + (got.equals(want) ? "" : ": " + got + " and not " + want), 1, () -> bit(got.equals(want)));
+    }
+
+    private static void refusedTextsChangeNothing() {
+        promise = "5 -1 less the place of a FAULT: none come";
+        String want = answers(told(RICH, RICH_RECORDS));
+        for (String line : OTHER_LINES) {
+            TunerRounds x = told(RICH, RICH_RECORDS);
+            put(x, line + ".");
+            is("records() of " + line + ".", -1 - line.length(), x::records);
+            isAlike("refused: " + line, want, x);
+            TunerRounds y = told(RICH, RICH_RECORDS);
+            put(y, line);
+            y.records();
+            is("taken: " + line, 0, () -> bit(answers(y).equals(want)));
+        }
+        promise = "4 -1 less the place of a FAULT: it stays";
+        String[] lines = RICH.split(";");
+        for (String line : lines) {
+            TunerRounds x = told(RICH, RICH_RECORDS);
+            String other = line.startsWith("teach") ? "tuner t 9 9;pupil q;teach t q 1;" : line.replace("1", "2") + ";";
+            put(x, other + ".");
+            is("house() of " + other + ".", 1, () -> bit(x.house() < 0));
+            isAlike("refused: " + other, want, x);
+        }
+    }
+
+    private static void restoredAsKept() {
+        promise = "39 HOUSE and RECORDS are as kept in place k";
+        String want = answers(told(RICH, RICH_RECORDS));
+        for (int k = 0; k < 2; k++) {
+            for (String line : OTHER_LINES) {
+                TunerRounds x = told(RICH, RICH_RECORDS);
+                x.image(k);
+                put(x, line.repeat(3));
+                x.records();
+                x.image(1 - k);
+                x.restore(k);
+                isAlike("restored behind " + line, want, x);
+            }
+            TunerRounds y = told(RICH, RICH_RECORDS);
+            y.image(k);
+            put(y, "damp 0 51 1;term 0 51;sure 1;cake 1;walk 1;work 10;day 1 2;fee hall 1 1;fee home 1 1;piano x home 9 9 9 9 9 9;"
+                + "piano y home 9 9 9 9 9 9 stove;piano z home 9 9 9 9 9 9;tuner v 9 9 fork 9;tuner w 9 9;pupil o;pupil p;teach w p 3;");
+            y.house();
+            put(y, "tuned x v on 1 0 9 1 9 2 9 3 9 4 9;".repeat(12));
+            y.records();
+            y.image(1 - k);
+            y.restore(k);
+            isAlike("restored behind another HOUSE", want, y);
+        }
+    }
+
+    private static void fullOfRecords() {
+        promise = "200 RECORDS, and every call has its answer";
+        for (String line : OTHER_LINES) {
+            TunerRounds x = told(RICH, RICH_RECORDS);
+            while (x.count(3) < 200) {
+                put(x, line.repeat(Math.min(200 - x.count(3), 700 / line.length())));
+                x.records();
+            }
+            is("RECORDS", 200, () -> x.count(3));
+            is("an answer", 1, () -> bit(answers(x).length() > 500));
+            put(x, line);
+            is("a 201st", -1, x::records);
+            is("an image", 1, () -> bit(x.image(0)));
+            is("restored", 1, () -> bit(x.restore(0)));
+            is("RECORDS", 200, () -> x.count(3));
+        }
+        promise = "200 FOUND: the last two are CRACKED";
+        TunerRounds found = told("piano a home 0 0 9 0 0 0;");
+        for (int i = 0; i < 9; i++) {
+            put(found, "found a on 5 0 1 1 1 2 1;".repeat(22));
+            found.records();
+        }
+        put(found, "found a on 5 0 1 1 1 2 1;");
+        is("199 RECORDS", 199, found::records);
+        is("not CRACKED", 0, () -> found.cracked(0, NONE));
+        put(found, "found a on 5 0 301 1 301 2 301;");
+        is("200 RECORDS", 200, found::records);
+        is("CRACKED", 1, () -> found.cracked(0, NONE));
     }
 
     private static void countsOfAll() {

@@ -537,6 +537,9 @@ public final class RoundBoundaryTest extends Checks {
         promise = "30 the FEE of the TUNED day";
         is("on 51", 150, () -> told(house, "tuned a t on 51;").owed(0, 363, NONE));
         is("on 50", 100, () -> told(house, "tuned a t on 50;").owed(0, 363, NONE));
+        promise = "30 other RECORDS owe nothing";
+        is("found, broke, moved, concert", 100, () -> told("fee hall 100 0;" + HALL,
+            "tuned h t on 0;found h on 1 0 5;broke h 0 on 1;moved h 1 1 on 1;concert h on 1;").owed(0, 363, NONE));
         promise = "30 below 0";
         is("paid 9999 twice", -19998, () -> told(house, "paid a 9999 on 1;paid a 9999 on 2;").owed(0, 363, NONE));
         promise = "30 the greatest sum";

@@ -54,6 +54,8 @@ public final class StringBoundaryTest extends Checks {
 
     private static void wolfOfLikeOnes() {
         promise = "10 of like ones the least";
+        // NOTE 1: 3 times 1150 less 2 times 1460 is 530; none has more.
+        is("wolf(0) at NOTE 1", 1, () -> told("table 1000 1150 1160 1200 1290 1350 1370 1430 1460 1760 1830 1870;").wolf(0));
         String[] tables = {"1000 1010 1070 1130 1190 1220 1260 1330 1420 1490 1550 1650",
             "1000 1010 1160 1200 1350 1360 1440 1510 1520 1530 1580 1650",
             "1000 1040 1070 1100 1120 1190 1340 1440 1520 1560 1650 1670",
@@ -353,6 +355,13 @@ public final class StringBoundaryTest extends Checks {
         is("not told in TUNED", 1, () -> untold.slips(0, NONE));
         is("0 less -2", 2, () -> untold.slipped(0));
         is("in 3 days", 3, () -> untold.slipped(1));
+        promise = "14 a TUNED of the same day makes no PAIR beside others";
+        TunerRounds same = told(ONE, "found a on 10 0 -9;tuned a t on 0;found a on 4 0 -4;tuned a t on 10;");
+        is("slips", 0, () -> same.slips(0, NONE));
+        is("4 by 4 days: above", 1, () -> same.slipped(0));
+        is("4 by 4 days: below", 1, () -> same.slipped(1));
+        TunerRounds first = told(ONE, "found a on 4 0 -4;tuned a t on 0;");
+        is("the first RECORD", 0, () -> first.slips(0, NONE));
         promise = "14 the first and the last day";
         TunerRounds far = told(ONE, "tuned a t on 0 11 999;found a on 363 11 -999;");
         is("slips", 11, () -> far.slips(0, NONE));
@@ -503,6 +512,16 @@ public final class StringBoundaryTest extends Checks {
             () -> told(three, "broke a 0 on 1;broke a 0 on 1;broke a 0 on 1;broke d 0 on 1;broke e 0 on 1;broke f 0 on 1;").batch(NONE));
         is("3 by 3, 1 by 1", 2, () -> told(three, "broke a 0 on 1;broke a 0 on 1;broke a 0 on 1;broke f 0 on 1;").batch(NONE));
         is("2 by 3, 1 by 1", 9, () -> told(three, "broke a 0 on 1;broke a 0 on 1;broke f 0 on 1;").batch(NONE));
+        TunerRounds again = told(three, "broke a 0 on 1;broke d 0 on 1;");
+        is("1 by 3, 1 by 2", 0, () -> again.batch(NONE));
+        put(again, "piano a home 0 0 9 0 0 0;piano b home 0 0 9 0 0 3;");
+        again.house();
+        put(again, "broke a 0 on 1;broke b 0 on 1;");
+        again.records();
+        is("1 by 1 and 1 by 1 of another HOUSE", 0, () -> again.batch(NONE));
+        put(again, "piano a home 0 0 9 0 0 3;");
+        again.house();
+        is("3 alone", 3, () -> again.batch(NONE));
         TunerRounds k = told(three, "broke a 0 on 1;broke f 0 on 1 known 7;");
         is("K 0", 0, () -> k.batch(0));
         is("K 1", 2, () -> k.batch(1));
@@ -529,6 +548,7 @@ public final class StringBoundaryTest extends Checks {
         is("none", 0, () -> cracked());
         is("one", 0, () -> cracked(first));
         is("one and a TUNED", 0, () -> cracked(first + "tuned a t on 11 0 -300 1 -300 2 -300;"));
+        is("a TUNED and one", 0, () -> cracked("tuned a t on 9 0 -300 1 -300 2 -300;" + first));
     }
 
     private static void crackedNotes() {

@@ -43,6 +43,7 @@ public final class TextBoundaryTest extends Checks {
         namesToldOnce();
         namesOfAnotherSort();
         sixteenSixSixSixteen();
+        lastOfAll();
         numberedAsTold();
         numbersOfRecords();
         whenKnown();
@@ -209,6 +210,24 @@ public final class TextBoundaryTest extends Checks {
         }
         badHouse("pupil a fork 5;", 1, 8);
         badHouse("tuner t 1 1 stove;", 1, 12);
+        promise = "KIND: 'home' | 'school' | 'hall'";
+        for (String word : RESERVED) {
+            if (!"home school hall ".contains(word + " ")) {
+                badHouse("fee " + word + " 5 5;", 1, 4);
+                badHouse("piano a " + word + " 1 1 1 1 1 1;", 1, 8);
+            }
+        }
+        badHouse("fee homes 5 5;", 1, 4);
+        badHouse("fee hom 5 5;", 1, 4);
+        promise = "MORE: 'stove' | 'slip' .. | 'frail' .. | 'open' ..";
+        for (String word : RESERVED) {
+            if (!"stove slip frail open ".contains(word + " ")) {
+                badHouse(PIANO + " " + word + ";", 1, 25);
+            }
+            if (!word.equals("fork")) {
+                badHouse("tuner t 1 1 " + word + " 5;", 1, 12);
+            }
+        }
         badHouse("tuner t 1 1 fork 1 fork 2;", 1, 19);
         badHouse(PIANO + " fork 5;", 1, 25);
         badHouse(PIANO + " zz;", 1, 25);
@@ -235,6 +254,13 @@ public final class TextBoundaryTest extends Checks {
             boolean begins = "tuned found broke paid ate concert moved ".contains(word + " ");
             if (!begins) {
                 badRecords(word + " a on 5;", 1, 0);
+            }
+            if (!word.equals("on")) {
+                badRecords("ate a " + word + " 5;", 1, 6);
+            }
+            if (!word.equals("known")) {
+                badRecords("ate a on 5 " + word + " 5;", 1, 11);
+                badRecords("tuned a t on 5 " + word + " 5;", 1, 15);
             }
         }
     }
@@ -291,6 +317,15 @@ public final class TextBoundaryTest extends Checks {
         badHouse("pupil aaaa;" + blanks(1183) + "pupil aaaa;", 1, 1200);
         badHouse("cake 5;" + blanks(1192) + "cake 5;", 3, 1199);
         badHouse("cake 5;" + blanks(1193) + "cake 5;", 1, 1200);
+        promise = "TOKENS that go on to the tape's last byte, 1240";
+        badHouse(blanks(1199) + "a".repeat(41), 1, 1199);
+        badHouse(blanks(1199) + "5".repeat(41), 1, 1199);
+        badHouse(blanks(1200) + "a".repeat(40), 1, 1200);
+        badHouse("a".repeat(1240), 1, 0);
+        badHouse("5".repeat(1240), 1, 0);
+        badHouse(";".repeat(1240), 1, 0);
+        badHouse("cake 5" + "0".repeat(1234), 1, 5);
+        promise = "TOKENS that begin ahead of 1200 are read whole";
         String six = times(6, "pupil #;");
         badHouse(six + blanks(1151) + "pupil", 4, 1199);
         badHouse(six + blanks(1152) + "pupil", 1, 1200);
@@ -678,6 +713,42 @@ public final class TextBoundaryTest extends Checks {
         goodHouse(fees + "sure 5;", 17);
     }
 
+    private static void lastOfAll() {
+        promise = "16 PIANOS, 6 TUNERS, 6 PUPILS, 16 fees: the last ones";
+        StringBuilder house = new StringBuilder(times(15, "piano p# home 1 1 1 1 1 1;"));
+        house.append("piano last hall 97 98 999 199 9998 8 stove open 7 8 slip 0 5 slip 11 7 frail 0 20 frail 3 20;");
+        house.append(times(5, "tuner t# 1 1;")).append("tuner tl 96 95 fork -94;");
+        house.append(times(6, "pupil q#;")).append("teach tl qf 93;teach ta qa 1;");
+        for (int i = 0; i < 16; i++) {
+            house.append("fee hall ").append(50 + i).append(' ').append(100 + i).append(';');
+        }
+        TunerRounds x = told(house.toString(), "tuned last tl on 200;");
+        x.image(1);
+        x.house();
+        x.restore(1);
+        int[] facts = {2, 97, 98, 999, 199, 9998, 8, 1, 7, 8};
+        for (int what = 0; what < 10; what++) {
+            int w = what;
+            is("piano(15, " + w + ")", facts[w], () -> x.piano(15, w));
+        }
+        is("fork", -94, () -> x.offset(15, 0, 200, NONE));
+        is("slip of NOTE 0", -99, () -> x.offset(15, 0, 201, NONE));
+        is("slip of NOTE 1", -95, () -> x.offset(15, 1, 201, NONE));
+        is("slip of NOTE 11", -101, () -> x.offset(15, 11, 201, NONE));
+        is("the last fee", 65, () -> x.fee(15, 115));
+        is("the one ahead", 64, () -> x.fee(15, 114));
+        is("teach", 94, x::pupils);
+        is("the last PUPIL's", 5, () -> x.pupilOf(5));
+        pianos(x, 15);
+        is("frail", 1001, () -> x.bag(2));
+        pianos(x, 15);
+        is("'open' 7 8", -2, () -> x.walked(5, 0));
+        pianos(x);
+        is("the last TUNER", 480, () -> x.walked(5, 0));
+        put(x, "moved last 90 91 on 1;concert last on 300;ate last on 1;");
+        is("the last PIANO's NAME", 4, x::records);
+    }
+
     private static void numberedAsTold() {
         promise = "each is numbered as told, from 0";
         TunerRounds x = told("tuner v 1 0;piano z home 7 0 1 0 0 0;pupil p;tuner u 2 0;piano a home 8 0 1 0 0 0;pupil o;"
@@ -957,6 +1028,25 @@ public final class TextBoundaryTest extends Checks {
         put(x, "piano a home 3 3 9 9 9 9;");
         x.house();
         is("without RECORDS", 0, () -> x.count(3));
+        promise = "4 what an earlier HOUSE told is not told";
+        put(x, "piano a hall 9 9 9 9 9 9 stove open 5 6 slip 0 9 slip 11 9 frail 0 20 frail 3 20;tuner t 9 9 fork 9;pupil q;teach t q 9;");
+        is("house()", 4, x::house);
+        put(x, "piano b home 0 0 999 0 0 0;tuner u 0 0;pupil r;");
+        is("house()", 3, x::house);
+        int[] facts = {0, 0, 0, 999, 0, 0, 0, 0, 0, 1440};
+        for (int what = 0; what < 10; what++) {
+            int w = what;
+            is("piano(0, " + w + ")", facts[w], () -> x.piano(0, w));
+        }
+        put(x, "tuned b u on 100;");
+        is("records()", 1, x::records);
+        is("fork", 0, () -> x.offset(0, 0, 100, NONE));
+        is("slip of NOTE 0", -1, () -> x.offset(0, 0, 101, NONE));
+        is("slip of NOTE 11", -1, () -> x.offset(0, 11, 101, NONE));
+        is("teach", 0, x::pupils);
+        pianos(x, 0);
+        is("frail", 0, () -> x.bag(0));
+        is("chance", 1000000000000000L, x::chance);
         promise = "4 how many LINES";
         goodHouse("pupil a;", 1);
         goodHouse(TEACHING + "damp 1 1 1;damp 1 1 1;", 4);
@@ -977,11 +1067,24 @@ public final class TextBoundaryTest extends Checks {
         is("the next comes behind the first", 2, x::records);
         is("owed", -5, () -> x.owed(0, 363, NONE));
         is("unready", 0, () -> x.unready(1, NONE));
+        promise = "5 NOTES of RECORDS that did not come";
+        put(x, "tuned a t on 5 0 7 5 7;.");
+        x.records();
+        put(x, "tuned a t on 5 1 3;");
+        is("records()", 3, x::records);
+        is("left of NOTE 0", 0, () -> x.offset(0, 0, 5, NONE));
+        is("left of NOTE 1", 3, () -> x.offset(0, 1, 5, NONE));
+        is("left of NOTE 5", 0, () -> x.offset(0, 5, 5, NONE));
+        is("NOTE 5 is not told", THROWS, () -> x.lean(0, 5, NONE, 0));
+        put(x, "found a on 5 0 7;.");
+        x.records();
+        put(x, "found a on 5 0 7;");
+        is("a NOTE told in one that did not come is told once", 4, x::records);
         promise = "5 how many there are in all";
         put(x, "");
-        is("none more", 2, x::records);
+        is("none more", 4, x::records);
         put(x, "ate h on 1;ate h on 2;");
-        is("two more", 4, x::records);
+        is("two more", 6, x::records);
         // A LINE of RECORDS has eleven bytes at least: 63 are the most in 700.
         goodRecords(times(63, "ate a on 1;"), 63);
         badRecords(times(64, "ate a on 1;"), 1, 700);
