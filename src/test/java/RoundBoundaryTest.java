@@ -669,6 +669,12 @@ public final class RoundBoundaryTest extends Checks {
         isBag(one, 0, all, 0, 663420431289062L);
         TunerRounds two = told(times(8, "piano # home 0 0 10 0 0 0 frail 0 1 frail 3 1;"));
         isBag(two, 0, all, 0, 440126668651765L);
+        promise = "35 cut where one more would reach the next whole number";
+        TunerRounds near = told("piano a home 0 0 10 0 0 0 frail 0 13 frail 1 13 frail 2 18 frail 3 9;"
+            + "piano b home 0 0 10 0 0 0 frail 0 17 frail 1 19 frail 2 17 frail 3 17;"
+            + "piano c home 0 0 10 0 0 0 frail 0 3 frail 1 6 frail 2 7 frail 3 1;");
+        // PARTS of 8000: 357, 98, 78, 627; the last product is one short of 417730790 times 8000.
+        isBag(near, 0, new int[] {0, 1, 2}, 0, 417730789L);
         promise = "35 cut to 0: like ones";
         TunerRounds none = told(times(8, "piano # home 0 0 10 0 0 0 frail 0 19 frail 1 19;"));
         isBag(none, 1, all, 0, 0);
