@@ -29,7 +29,9 @@ public final class FaceTest {
     public static void main(String[] args) throws IOException {
         Set<String> names = checkMembers();
         checkClasses(names);
-        checkSource(Files.readString(Path.of("src/main/java/TunerRounds.java"), StandardCharsets.UTF_8));
+        String source = Files.readString(Path.of("src/main/java/TunerRounds.java"), StandardCharsets.UTF_8);
+        checkSource(source);
+        checkLengths(source);
         System.out.println("FaceTest: " + wrong + " wrong");
         System.exit(wrong == 0 ? 0 : 1);
     }
@@ -103,5 +105,17 @@ public final class FaceTest {
         while (calls.find()) {
             must(allowed.contains(calls.group()), "the source calls " + calls.group());
         }
+    }
+
+    // Methods stand at four signs in, those of classes inside at eight; each ends at the next brace that far in.
+    private static void checkLengths(String source) {
+        Matcher methods = Pattern.compile("(?m)^( {4}| {8})(?! )(?!.*\\bclass\\b)[^\\n]*\\)[^\\n;]*\\{\\n((?s:.*?))^\\1\\}$").matcher(source);
+        int found = 0;
+        while (methods.find()) {
+            found++;
+            long lines = methods.group(2).lines().count();
+            must(lines <= 60, "a method has " + lines + " lines: " + methods.group().lines().findFirst().orElse(""));
+        }
+        must(found > 100, "only " + found + " methods are seen");
     }
 }

@@ -17,9 +17,13 @@ public final class FuzzTest {
     // Dense runs have few PIANOS, close days and near places, so that rare meetings and ties come.
     private final boolean dense;
 
+    // Late runs have most days at the year's end, where moves, stoves and DUE meet day 363.
+    private final boolean late;
+
     private FuzzTest(long seed) {
         random = new Random(seed);
         dense = seed % 2 == 1;
+        late = seed % 5 == 4;
     }
 
     public static void main(String[] args) {
@@ -112,12 +116,16 @@ public final class FuzzTest {
 
     private int day() {
         int dice = random.nextInt(60);
-        return dice == 0 ? -1 : dice == 1 ? 364 : dice < 6 ? random.nextInt(364) : random.nextInt(dense ? 30 : 80);
+        return dice == 0 ? -1 : dice == 1 ? 364 : dice < 6 ? random.nextInt(364) : nearDay(dense ? 30 : 80);
+    }
+
+    private int nearDay(int days) {
+        return random.nextInt(days) + (late ? 364 - days : 0);
     }
 
     private int known() {
         int dice = random.nextInt(60);
-        return dice == 0 ? -2 : dice == 1 ? 364 : dice < 30 ? -1 : random.nextInt(100);
+        return dice == 0 ? -2 : dice == 1 ? 364 : dice < 30 ? -1 : nearDay(100);
     }
 
     private int what(int bound) {
@@ -355,7 +363,7 @@ public final class FuzzTest {
             all.add(i);
         }
         java.util.Collections.shuffle(all, random);
-        int most = random.nextInt(300) == 0 ? 8 : 6;
+        int most = random.nextInt(300) == 0 ? 9 : 6;
         StringBuilder bytes = new StringBuilder();
         int n = Math.min(all.size(), random.nextInt(most + 1));
         for (int i = 0; i < n; i++) {
@@ -390,6 +398,10 @@ public final class FuzzTest {
 
     private int place() {
         return dense ? upTo(2) : random.nextInt(20) == 0 ? upTo(99) : upTo(9);
+    }
+
+    private int nearWeek(int weeks) {
+        return random.nextInt(weeks) + (late ? 52 - weeks : 0);
     }
 
     private String houseText() {
@@ -440,11 +452,11 @@ public final class FuzzTest {
             say(";");
         }
         for (int i = random.nextInt(4); i > 0; i--) {
-            int from = random.nextInt(dense ? 5 : random.nextBoolean() ? 15 : 52);
+            int from = nearWeek(dense ? 5 : random.nextBoolean() ? 15 : 52);
             say("damp", from, Math.min(51, from + random.nextInt(4)), upTo(40), ";");
         }
         for (int i = random.nextInt(3); i > 0; i--) {
-            int from = random.nextInt(random.nextBoolean() ? 10 : 52);
+            int from = nearWeek(random.nextBoolean() ? 10 : 52);
             say("term", from, Math.min(51, from + random.nextInt(4)), ";");
         }
         for (int i = random.nextInt(random.nextInt(20) == 0 ? 18 : 6); i > 0; i--) {
@@ -534,10 +546,10 @@ public final class FuzzTest {
                 break;
             default:
         }
-        int on = random.nextInt(20) == 0 ? random.nextInt(364) : random.nextInt(dense ? 30 : 80);
+        int on = random.nextInt(20) == 0 ? random.nextInt(364) : nearDay(dense ? 30 : 80);
         say("on", on);
         if (random.nextInt(4) == 0) {
-            say("known", kind.equals("concert") ? random.nextInt(100) : Math.min(363, on + random.nextInt(dense ? 8 : 30)));
+            say("known", kind.equals("concert") ? nearDay(100) : Math.min(363, on + random.nextInt(dense ? 8 : 30)));
         }
         if (kind.equals("tuned") || kind.equals("found")) {
             sayNotes(kind.equals("found") ? 1 : 0);
