@@ -2033,8 +2033,32 @@ public final class TunerRounds {
             }
             packed = 0;
             packedChance = NONE;
-            tryCounts(0, n, 0, WHOLE);
+            for (int first = 0; first <= mostOf(n); first++) {
+                long withFirst = chanceWith(WHOLE, 0, first);
+                for (int second = 0; second <= mostOf(n - first); second++) {
+                    long withSecond = chanceWith(withFirst, 1, second);
+                    tryRest(n - first - second, first * 10 + second, withSecond);
+                }
+            }
             return packed;
+        }
+
+        /** More than a string for each PIANO never helps. */
+        private int mostOf(int strings) {
+            return Math.min(strings, size);
+        }
+
+        private void tryRest(int strings, int code, long chance) {
+            for (int third = 0; third <= mostOf(strings); third++) {
+                long withThird = chanceWith(chance, 2, third);
+                for (int fourth = 0; fourth <= mostOf(strings - third); fourth++) {
+                    long withFourth = chanceWith(withThird, 3, fourth);
+                    if (withFourth > packedChance) {
+                        packedChance = withFourth;
+                        packed = code * 100 + third * 10 + fourth;
+                    }
+                }
+            }
         }
 
         private void countParts(int g) {
@@ -2054,24 +2078,9 @@ public final class TunerRounds {
             }
         }
 
-        /** Goes on from sort g; more than a string for each PIANO never helps. */
-        private void tryCounts(int g, int strings, int code, long chance) {
-            if (g >= SORTS) {
-                if (chance > packedChance) {
-                    packedChance = chance;
-                    packed = code;
-                }
-                return;
-            }
-            int most = Math.min(strings, size);
-            for (int c = 0; c <= most; c++) {
-                tryCounts(g + 1, strings - c, code * 10 + c, partOf(chance, parts[g * COUNTS + c]));
-            }
-        }
-
         // The product would not fit in a long, so it is cut digit by digit of the PARTS to base 20.
-        private long partOf(long chance, long itsParts) {
-            long rest = itsParts;
+        private long chanceWith(long chance, int g, int strings) {
+            long rest = parts[g * COUNTS + strings];
             long cut = 0;
             for (int i = 0; i < size; i++) {
                 cut = (cut + chance * (rest % TWENTY)) / TWENTY;

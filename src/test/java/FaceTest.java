@@ -31,7 +31,7 @@ public final class FaceTest {
         checkClasses(names);
         String source = Files.readString(Path.of("src/main/java/TunerRounds.java"), StandardCharsets.UTF_8);
         checkSource(source);
-        checkLengths(source);
+        checkMethods(source);
         System.out.println("FaceTest: " + wrong + " wrong");
         System.exit(wrong == 0 ? 0 : 1);
     }
@@ -108,13 +108,17 @@ public final class FaceTest {
     }
 
     // Methods stand at four signs in, those of classes inside at eight; each ends at the next brace that far in.
-    private static void checkLengths(String source) {
-        Matcher methods = Pattern.compile("(?m)^( {4}| {8})(?! )(?!.*\\bclass\\b)[^\\n]*\\)[^\\n;]*\\{\\n((?s:.*?))^\\1\\}$").matcher(source);
+    private static void checkMethods(String source) {
+        Matcher methods = Pattern.compile("(?m)^( {4}| {8})(?! )(?!.*\\bclass\\b)([^\\n(]*?)(\\w+)\\([^\\n]*\\)[^\\n;]*\\{\\n((?s:.*?))^\\1\\}$").matcher(source);
         int found = 0;
         while (methods.find()) {
             found++;
-            long lines = methods.group(2).lines().count();
-            must(lines <= 60, "a method has " + lines + " lines: " + methods.group().lines().findFirst().orElse(""));
+            String name = methods.group(3);
+            String body = methods.group(4);
+            long lines = body.lines().count();
+            must(lines <= 60, name + " has " + lines + " lines");
+            boolean callsItself = Pattern.compile("(?<![\\w.])" + name + "\\(").matcher(body).find();
+            must(!callsItself || methods.group(2).contains("static "), name + " calls itself and is not static");
         }
         must(found > 100, "only " + found + " methods are seen");
     }

@@ -363,9 +363,9 @@ public final class FuzzTest {
             all.add(i);
         }
         java.util.Collections.shuffle(all, random);
-        int most = random.nextInt(300) == 0 ? 9 : 6;
         StringBuilder bytes = new StringBuilder();
-        int n = Math.min(all.size(), random.nextInt(most + 1));
+        // Model walks all orders, so seven PIANOS and more are dear.
+        int n = Math.min(all.size(), random.nextInt(100) == 0 ? 7 + random.nextInt(3) : random.nextInt(7));
         for (int i = 0; i < n; i++) {
             bytes.append((char) (int) all.get(i));
         }
